@@ -130,6 +130,7 @@ public final class AskTest {
         BanksDealt c = Check.on("source 0;field a 1 1 4;field b 2 1 7;field c 3 1 7;field d 0 0 20;");
         Check.due("of like ones the first", c.richest(1), 1);
         Check.due("it has none", c.richest(0), -1);
+        Check.due("the least WORTH", Check.on("field a 1 1 1;").richest(1), 0);
     }
 
     private static void deeds() {

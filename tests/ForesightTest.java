@@ -12,6 +12,7 @@ public final class ForesightTest {
         duelAgainst();
         pushed();
         pushedByMore();
+        highest();
         shares();
         odds();
         nothingChanges();
@@ -177,6 +178,24 @@ public final class ForesightTest {
         // a is wet; 0 1 is 2 cheaper than 1 1, and of like ones the first
         Check.due("a is wet", g.field(0, 3), 2);
         Check.due("left by stones on the bed alone", g.pushed(0, 2), 0);
+    }
+
+    private static void highest() {
+        String text = "plain 3 2;source 0;land 0 1 8;land 1 1 8;field a 0 1 7;";
+        BanksDealt b = Check.on(text);
+        Check.due("a stone up to 9", b.pushed(0, 1), 7);
+        Check.due("its cell", b.pushedAt(0), 36 + 6);
+        Check.due("a stone up to 9", b.tempted(0, 0, 1), 1);
+        Check.due("a stone up to 9", b.duel(0), 0);
+        Check.due("the other one can dig it away", b.duelAt(0), -2);
+        BanksDealt c = Check.on(text.replace("1 8;", "1 9;"));
+        Check.due("no stone on 9", c.pushed(0, 2), 0);
+        Check.due("no stone on 9", c.tempted(0, 0, 1), -1);
+        BanksDealt d = Check.on(text + "purse right 0;");
+        Check.due("none digs it away", d.duel(0), 7);
+        Check.due("its cell", d.duelAt(0), 36 + 6);
+        BanksDealt e = Check.on(text.replace("1 8;", "1 9;") + "purse right 0;");
+        Check.due("no stone on 9", e.duel(0), 0);
     }
 
     private static void shares() {

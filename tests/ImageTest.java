@@ -3,6 +3,7 @@ public final class ImageTest {
     public static void main(String[] args) {
         places();
         all();
+        sentences();
         anotherPlain();
         Check.end("ImageTest");
     }
@@ -64,6 +65,23 @@ public final class ImageTest {
         Check.due("rolled", b.mill(0, 3), 1);
         Check.due("SENTENCE", b.said(-1), 1);
         Check.due("SENTENCE", b.said(0), 2);
+    }
+
+    private static void sentences() {
+        BanksDealt b = Hill.make();
+        Check.sentence(b, "same oats or worth>7");
+        b.image(0);
+        Check.sentence(b, "same bean or worth>7");
+        b.image(1);
+        Check.sentence(b, "same bean or worth<9");
+        b.restore(0);
+        Check.due("same oats, worth>7", b.said(-1), 3);
+        Check.due("bean", b.said(0), 0);
+        b.restore(1);
+        Check.due("same bean, worth>7", b.said(-1), 1);
+        Check.sentence(b, "not (left or right)");
+        b.restore(0);
+        Check.due("same oats, worth>7", b.said(2), 3);
     }
 
     private static void anotherPlain() {

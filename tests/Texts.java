@@ -47,14 +47,20 @@ final class Texts {
         int lands = upTo(3) == 0 ? upTo(6) : wide * high * 2 / 3;
         List<String> lines = new ArrayList<>();
         boolean flat = upTo(2) == 0;
+        int base = new int[] {0, 4, 7}[upTo(3)];
         boolean[] land = new boolean[36];
         boolean[] taken = new boolean[36];
-        for (int i = 0; i < lands; i++) {
+        for (int c = 0; flat && c < wide * high; c++) {
+            // all HEIGHTS near one another, often near what they can be at most
+            land[6 * (c / wide) + c % wide] = true;
+            lines.add("land " + c % wide + " " + c / wide + " " + (base + upTo(3)) + " ;");
+        }
+        for (int i = 0; i < lands && !flat; i++) {
             int x = upTo(wide);
             int y = upTo(high);
             if (!land[6 * y + x] || upTo(200) == 0) {
                 land[6 * y + x] = true;
-                lines.add("land " + x + " " + y + " " + (flat ? 4 + upTo(3) : upTo(10)) + " ;");
+                lines.add("land " + x + " " + y + " " + upTo(10) + " ;");
             }
         }
         for (int i = 0; i < fields; i++) {
