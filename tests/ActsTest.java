@@ -146,7 +146,7 @@ public final class ActsTest {
         Check.due("the last SPRING", b.spring(5) >= 0, true);
         Check.due("not another", b.spring(5), -1);
         Check.due("still: would()", b.would(), 9);
-        Check.due("still: shares()", b.shares(0, 2, 3, 1), 2 * 3 * 8);
+        Check.due("no YEAR any more: shares()", b.shares(0, 2, 3, 1), 0);
         Check.due("still: odds()", b.odds(0, 0, 2, 3, 1), 3);
     }
 

@@ -15,6 +15,7 @@ public final class ForesightTest {
         highest();
         shares();
         odds();
+        whenSpringsAreOver();
         nothingChanges();
         Check.end("ForesightTest");
     }
@@ -228,6 +229,31 @@ public final class ForesightTest {
         for (int[] n : none) {
             Check.due("odds of no such", b.odds(n[0], n[1], n[2], n[3], 1), -1);
         }
+    }
+
+    private static void whenSpringsAreOver() {
+        // Without ice the river stays in 1 1 2: barn (8) is the left one's, mead and heath (6, 5) the right one's.
+        BanksDealt b = Check.on(Hill.SHORE);
+        for (int i = 0; i < 13; i++) {
+            b.years(30, i);
+        }
+        Check.due("10 SPRINGS are left", b.shares(0, 10, 2, 1), 10 * 2 * 8);
+        b.years(7, 1);
+        Check.due("as many YEARS as SPRINGS are left", b.shares(0, 3, 2, 1), 3 * 2 * 8);
+        Check.due("one YEAR more than SPRINGS are left", b.shares(0, 4, 2, 1), 3 * 2 * 8);
+        Check.due("odds() behind those that are left", b.odds(0, 0, 10, 2, 1), 2);
+        b.years(2, 1);
+        Check.due("one is left", b.shares(1, 10, 30, 1), 30 * 11);
+        Check.due("it is still there for the next call", b.shares(1, 1, 30, 1), 30 * 11);
+        b.spring(1);
+        Check.due("now(0)", b.now(0), 400);
+        Check.due("all are over", b.shares(0, 1, 1, 1), 0);
+        Check.due("all are over", b.shares(1, 10, 30, 1), 0);
+        Check.due("no such ones all the same", b.shares(1, 11, 30, 1), -1);
+        Check.due("odds(): nothing moves any more", b.odds(0, 0, 10, 30, 1), 30);
+        Check.due("odds() of another one", b.odds(0, 1, 10, 30, 1), 0);
+        b.undo();
+        Check.due("one is left again", b.shares(0, 10, 1, 1), 8);
     }
 
     private static List<Integer> allThatIsSo(BanksDealt b) {

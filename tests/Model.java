@@ -781,7 +781,7 @@ final class Model {
         for (int i = 0; i < n; i++) {
             State t = s.copy();
             this.seed = seed + i;
-            for (int j = 0; j < m; j++) {
+            for (int j = 0; j < m && t.springs < 400; j++) {
                 yearsOn(t, 1);
                 sum += worth(t, t.bed, a);
             }

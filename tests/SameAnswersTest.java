@@ -40,6 +40,8 @@ public final class SameAnswersTest {
             }
             allCame("pushed", "pushed ditch", "pushed stone", "pushed ditch ditch", "pushed ditch stone");
             allCame("pushed stone stone");
+            allCame("shares when few are left", "shares when all are over");
+            allCame("odds when few are left", "odds when all are over");
         }
         Check.end("SameAnswersTest");
     }
@@ -170,11 +172,16 @@ public final class SameAnswersTest {
             return "ran";
         }
         if (long1 && kind < 50) {
+            // Slowly at the end, so that much is asked while few SPRINGS are left.
+            int n = m.s.springs < 370 ? 30 : 1 + r.nextInt(5);
             int seed = r.nextInt();
-            Check.due("years(30)", b.years(30, seed), m.years(30, seed));
+            Check.due("years(" + n + ")", b.years(n, seed), m.years(n, seed));
             return "years";
         }
         int what = r.nextInt(3) == 0 ? RICH[r.nextInt(RICH.length)] : r.nextInt(43);
+        if (m.s.springs > 385 && r.nextInt(5) == 0) {
+            what = r.nextBoolean() ? 27 : 31;
+        }
         int[] a = r.nextInt(8) == 0 ? wild(r) : fitting(m, what, r);
         compare(b, m, what, a);
         return what + "(" + a[0] + ", " + a[1] + ", " + a[2] + ", " + a[3] + ", " + a[4] + ")";
@@ -243,6 +250,9 @@ public final class SameAnswersTest {
             count("duel" + work(m.duelAt(0)) + work(m.duelAt(1)));
         } else if (what == 24) {
             count("pushed" + (want == NONE ? " NONE" : work(m.pushedAt(0)) + work(m.pushedAt(1))));
+        }
+        if ((what == 27 || what == 31) && want != NONE && m.s.springs + a[1] > 400) {
+            count((what == 27 ? "shares" : "odds") + (m.s.springs < 400 ? " when few are left" : " when all are over"));
         }
         meant[what] += want != Model.NONE && want != DONE ? 1 : 0;
         if (got != want) {

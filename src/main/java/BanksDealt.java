@@ -361,9 +361,8 @@ public final class BanksDealt {
         for (int i = 0; i < n; i++) {
             trial.copyOf(now);
             river.seed = seed + i;
-            for (int year = 0; year < m; year++) {
-                // A YEAR whose SPRING is over leaves all as it is, and counts as one of the m all the same.
-                river.floods(trial, 1);
+            // Behind the last SPRING there is no YEAR any more, and so no WORTH behind one.
+            for (int year = 0; year < m && river.floods(trial, 1) == 1; year++) {
                 all += trial.worthBy(trial.course, s);
             }
         }
