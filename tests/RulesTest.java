@@ -28,7 +28,9 @@ import java.util.Collections;
 import java.util.Deque;
 import java.util.IdentityHashMap;
 import java.util.List;
+import java.util.Map;
 import java.util.Set;
+import java.util.TreeMap;
 import java.util.TreeSet;
 import javax.lang.model.element.Element;
 import javax.lang.model.element.ElementKind;
@@ -103,6 +105,7 @@ public final class RulesTest {
                 rules.scan(unit, null);
                 Check.due("classes, at most 12", rules.classes <= 12, true);
                 Check.due("methods were seen", rules.methods > 100, true);
+                rules.depths();
             }
         }
     }
@@ -110,6 +113,8 @@ public final class RulesTest {
     private static final class Rules extends TreePathScanner<Void, Void> {
         private final Trees trees;
         private final CompilationUnitTree unit;
+        private final Map<String, Set<String>> calls = new TreeMap<>();
+        private String inMethod;
         private int classes;
         private int methods;
 
@@ -149,7 +154,34 @@ public final class RulesTest {
             long to = at.getEndPosition(unit, m) < 0 ? from : unit.getLineMap().getLineNumber(at.getEndPosition(unit, m));
             never(to - from >= 60, m.getName() + " has " + (to - from + 1) + " lines", m);
             never(m.getParameters().size() > 7, m.getName() + " takes more than seven", m);
+            inMethod = named(trees.getElement(getCurrentPath()));
+            calls.putIfAbsent(inMethod, new TreeSet<>());
             return super.visitMethod(m, v);
+        }
+
+        private static String named(Element method) {
+            return method.getEnclosingElement().getSimpleName() + "." + method.getSimpleName();
+        }
+
+        /** Each method once, what calls itself round others too: what rule 11 leaves out is counted here. */
+        void depths() {
+            for (String method : calls.keySet()) {
+                int deep = deepest(method, new ArrayDeque<>());
+                Check.due(method + " goes " + deep + " calls deep, eight at most", deep <= 8, true);
+            }
+        }
+
+        private int deepest(String method, Deque<String> open) {
+            if (open.contains(method)) {
+                return 0;
+            }
+            open.push(method);
+            int most = 0;
+            for (String next : calls.getOrDefault(method, Set.of())) {
+                most = Math.max(most, deepest(next, open));
+            }
+            open.pop();
+            return 1 + most;
         }
 
         @Override
@@ -158,6 +190,9 @@ public final class RulesTest {
             String owner = e.getEnclosingElement().getSimpleName().toString();
             boolean own = e.getEnclosingElement().toString().startsWith("BanksDealt");
             boolean made = e instanceof ExecutableElement && e.getKind() == ElementKind.CONSTRUCTOR;
+            if (own && inMethod != null) {
+                calls.get(inMethod).add(named(e));
+            }
             never(!own && !made && !LIBRARY.contains(owner + "." + e.getSimpleName()),
                 owner + "." + e.getSimpleName() + " of the library", call);
             return super.visitMethodInvocation(call, v);

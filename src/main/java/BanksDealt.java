@@ -31,6 +31,10 @@ public final class BanksDealt {
     /** Below every lead, as all FIELDS together have a WORTH of 200 at most. */
     private static final int NO_LEAD = -1000;
 
+    /** WORDS and NAMES are numbers of 5 bits a letter, so that comparing them makes no object. */
+    private static final int LETTER_BITS = 5;
+    private static final int LETTERS_MOST = 7;
+
     private static final int END = 0;
     private static final int BAD = 1;
     private static final int WORD = 2;
@@ -578,14 +582,9 @@ public final class BanksDealt {
                     w++;
                     key = 0;
                 } else {
-                    key = withLetter(key, c);
+                    key = (key << LETTER_BITS) + (c - 'a' + 1);
                 }
             }
-        }
-
-        /** Names are numbers of 5 bits a letter, so that comparing them makes no object. */
-        private static long withLetter(long key, int letter) {
-            return (key << 5) + (letter - 'a' + 1);
         }
 
         void add(int four) {
@@ -617,6 +616,7 @@ public final class BanksDealt {
                 kind = END;
             } else if (isSmall(bytes[i]) || isDigit(bytes[i])) {
                 readWordOrNumber();
+                word = kind == WORD ? indexOfName(words, words.length, name) : NONE;
             } else {
                 next = i + 1;
                 kind = isSign(bytes[i]) ? bytes[i] : BAD;
@@ -629,21 +629,23 @@ public final class BanksDealt {
             long key = 0;
             int value = 0;
             int i = at;
-            for (; i < size && (isSmall(bytes[i]) || isDigit(bytes[i])); i++) {
-                if (isSmall(bytes[i])) {
+            for (; i < size; i++) {
+                int c = bytes[i];
+                if (c >= 'a' && c <= 'z') {
                     letters++;
-                    key = withLetter(key, bytes[i]);
-                } else {
+                    key = (key << LETTER_BITS) + (c - 'a' + 1);
+                } else if (c >= '0' && c <= '9') {
                     digits++;
-                    value = 10 * value + bytes[i] - '0';
+                    value = 10 * value + c - '0';
+                } else {
+                    break;
                 }
             }
             next = i;
             kind = BAD;
-            if (digits == 0 && letters <= 7) {
+            if (digits == 0 && letters <= LETTERS_MOST) {
                 kind = WORD;
                 name = key;
-                word = indexOfName(words, words.length, key);
             } else if (letters == 0 && digits <= 3) {
                 kind = NUMBER;
                 number = value;
@@ -853,11 +855,10 @@ public final class BanksDealt {
             System.arraycopy(course, 0, past, springs % KEPT * ROW, ROW);
             System.arraycopy(bed, 0, course, 0, ROW);
             springs++;
-            earn();
             return often;
         }
 
-        private void earn() {
+        void earn() {
             for (int s = LEFT; s <= RIGHT; s++) {
                 int more = worthBy(course, s) / 4;
                 for (int m = 0; m < mills; m++) {
@@ -948,7 +949,9 @@ public final class BanksDealt {
                 }
             }
             run(p);
-            return p.takeBed(course);
+            int often = p.takeBed(course);
+            p.earn();
+            return often;
         }
 
         private int draw(int n) {
@@ -1251,10 +1254,8 @@ public final class BanksDealt {
                     return liveWork(p, i, STONE, 10);
                 case W_ROLLS:
                     return liveRoll(p, i);
-                case W_SPRING:
-                    return liveSprings(p, river, 1, x[i]);
                 default:
-                    return liveSprings(p, river, x[i], x[i]);
+                    return liveSprings(p, river, i);
             }
         }
 
@@ -1284,12 +1285,15 @@ public final class BanksDealt {
             return 0;
         }
 
-        private int liveSprings(Plain p, River river, int n, int seed) {
+        private int liveSprings(Plain p, River river, int i) {
+            int n = verb[i] == W_SPRING ? 1 : x[i];
             if (p.springs + n > SPRINGS_MOST) {
                 return 31;
             }
-            river.seed = seed;
-            river.floods(p, n);
+            river.seed = x[i];
+            for (int k = 0; k < n; k++) {
+                river.flood(p);
+            }
             return 0;
         }
     }
@@ -1413,7 +1417,8 @@ public final class BanksDealt {
                 if (by != '<' && by != '=' && by != '>') {
                     return t.fails(1);
                 }
-                return t.between(0, 999) && put(what, t.number, by);
+                t.step();
+                return t.kind == NUMBER ? put(what, t.number, by) : t.fails(1);
             }
             return put(what, 0, 0);
         }
@@ -1799,8 +1804,8 @@ public final class BanksDealt {
         }
 
         private void putName(long name) {
-            for (int shift = 30; shift >= 0; shift -= 5) {
-                int letter = (int) (name >> shift & 31);
+            for (int i = LETTERS_MOST - 1; i >= 0; i--) {
+                int letter = (int) (name >> LETTER_BITS * i & 31);
                 if (letter > 0) {
                     put('a' + letter - 1);
                 }
