@@ -7,6 +7,7 @@ public final class EdgesTest {
         EdgesOfTexts.all();
         EdgesOfBooks.all();
         EdgesOfSentences.all();
+        EdgesOfActs.all();
         Check.end("EdgesTest");
     }
 }
