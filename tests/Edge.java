@@ -94,8 +94,9 @@ final class Edge {
     static Edge on(String plain) {
         Edge e = new Edge().tape(plain);
         e.calling("plain");
-        if (e.b.fault() != 0) {
-            that("a PLAIN without a FAULT: " + plain, e.b.fault(), 0);
+        long fault = e.calling("fault");
+        if (fault != 0) {
+            that("a PLAIN without a FAULT: " + plain, fault, 0);
         }
         return e;
     }
@@ -234,6 +235,12 @@ final class Edge {
     /** The answer, for what is due by itself elsewhere. */
     long ask(String call) {
         return calling(call);
+    }
+
+    /** A call whose answer is due elsewhere. */
+    Edge led(String call) {
+        calling(call);
+        return this;
     }
 
     private long calling(String call) {

@@ -74,6 +74,12 @@ final class EdgesOfSentences {
         Edge e = Edge.on(TEN).text("sentence", "wet", 1);
         e.text("sentence", "wet or ".repeat(18) + "wet", 19).text("sentence", "wet or ".repeat(19) + "wet", 20);
         e.text("sentence", "wet and ".repeat(19) + "wet", 20);
+        StringBuilder sixteen = new StringBuilder("number=0");
+        for (int f = 1; f < 16; f++) {
+            sixteen.append(" or number=").append(f);
+        }
+        e.says(sixteen.toString(), 0, 1, 2, 3, 4, 5, 6, 7, 8, 9).text("sentence", sixteen.toString(), 16);
+        e.says("wet or ".repeat(18) + "wet or number=9", 2, 8, 9).says("left and ".repeat(19) + "number>6", 7);
         e.text("sentence", "(wet)or ".repeat(9) + "(wet)", 20).text("sentence", "not wet or ".repeat(9) + "not wet", 20);
         Edge.by("Terms", "a 21st ONE, a ninth within (at its first TOKEN)");
         String twenty = "wet or ".repeat(20);

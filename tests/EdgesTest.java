@@ -8,6 +8,9 @@ public final class EdgesTest {
         EdgesOfBooks.all();
         EdgesOfSentences.all();
         EdgesOfActs.all();
+        EdgesOfPlans.all();
+        EdgesOfAnswers.all();
+        Edge.everyPart();
         Check.end("EdgesTest");
     }
 }
