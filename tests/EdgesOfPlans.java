@@ -361,6 +361,17 @@ final class EdgesOfPlans {
         Edge g = Edge.on(columns("666", "646"));
         pushed(g, "1 1", 0);
         pushed(g, "1 2", 7, STONE + 8, STONE + 14);
+        // all HEIGHTS 5: a ditch in 4 4 leads it past X 0, a stone on 3 5, nearly the last work, from 3 5 to 4 5
+        Edge far = Edge.on("plain 5 6;source 2;ice 5;field a 0 3 13;field b 3 5 9;").due("spring 40", 2).bed(223443);
+        pushed(far, "0 1", 13, 14);
+        pushed(far, "0 2", 22, 28, STONE + 33);
+        // what could be done on another PLAIN can't be done here
+        Edge other = Edge.on(columns("444", "444")).due("pushed 1 1", 7).due("tempted 0 1 0", 0);
+        other.text("plain", columns("5", "4"), 7).due("tempted 0 1 0", NONE);
+        pushed(other, "1 1", 7, STONE + 8);
+        other.text("plain", columns("444", "444"), 13).due("pushed 0 1", 7).text("plain", columns("5", "4"), 7);
+        pushed(other, "1 1", 7, STONE + 8);
+        tempted(other, "0 1 1", 8);
     }
 
     private static void pushedRefused() {
