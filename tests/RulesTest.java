@@ -110,6 +110,9 @@ public final class RulesTest {
         }
     }
 
+    private static final Set<javax.lang.model.element.Modifier> ALONE = Set.of(
+        javax.lang.model.element.Modifier.PRIVATE, javax.lang.model.element.Modifier.STATIC);
+
     private static final class Rules extends TreePathScanner<Void, Void> {
         private final Trees trees;
         private final CompilationUnitTree unit;
@@ -192,6 +195,8 @@ public final class RulesTest {
             boolean made = e instanceof ExecutableElement && e.getKind() == ElementKind.CONSTRUCTOR;
             if (own && inMethod != null) {
                 calls.get(inMethod).add(named(e));
+                never(inMethod.equals(named(e)) && !e.getModifiers().containsAll(ALONE),
+                    "a method that calls itself and is not private and static", call);
             }
             never(!own && !made && !LIBRARY.contains(owner + "." + e.getSimpleName()),
                 owner + "." + e.getSimpleName() + " of the library", call);

@@ -1374,25 +1374,33 @@ public final class BanksDealt {
             }
             ones++;
             if (t.kind == '(') {
-                t.step();
-                if (!readCond(t, p, depth + 1)) {
-                    return false;
-                }
-                if (t.kind != ')') {
-                    return t.fails(1);
-                }
-                t.step();
-                return true;
+                return readBracket(t, p, depth);
             }
             if (t.word == W_NOT) {
-                t.step();
-                return readOne(t, p, depth + 1) && put(W_NOT, 0, 0);
+                return readNot(t, p, depth);
             }
             boolean whole = readPlainOne(t, p);
             if (whole) {
                 t.step();
             }
             return whole;
+        }
+
+        private boolean readBracket(Tape t, Plain p, int depth) {
+            t.step();
+            if (!readCond(t, p, depth + 1)) {
+                return false;
+            }
+            if (t.kind != ')') {
+                return t.fails(1);
+            }
+            t.step();
+            return true;
+        }
+
+        private boolean readNot(Tape t, Plain p, int depth) {
+            t.step();
+            return readOne(t, p, depth + 1) && put(W_NOT, 0, 0);
         }
 
         private static boolean isBeginning(Tape t) {
@@ -1549,7 +1557,7 @@ public final class BanksDealt {
             goalSide = side;
             listWorks(p, side, change == DITCH ? 0 : CELLS, change == DITCH ? CELLS : 2 * CELLS);
             for (int n = 0; n <= picked.length; n++) {
-                if (tempts(p, 0, n, 0)) {
+                if (tempts(this, p, 0, n, 0)) {
                     for (int i = 0; i < n; i++) {
                         temptedCells[i] = picked[i] % CELLS;
                     }
@@ -1561,21 +1569,25 @@ public final class BanksDealt {
         }
 
         /** Picks works from the depth-th up to the n-th, the depth being 3 at most. */
-        private boolean tempts(Plain p, int depth, int n, int from) {
-            if (depth >= n || depth >= picked.length) {
-                river.run(p);
-                return bankBy(river.course, p.fieldCell[goalField]) == goalSide;
+        private static boolean tempts(Plans plans, Plain p, int depth, int n, int from) {
+            if (depth >= n || depth >= plans.picked.length) {
+                return plans.isTempted(p);
             }
-            for (int i = from; i < size; i++) {
-                picked[depth] = works[i];
-                apply(works[i]);
-                boolean tempting = tempts(p, depth + 1, n, i + 1);
-                takeBack(works[i]);
+            for (int i = from; i < plans.size; i++) {
+                plans.picked[depth] = plans.works[i];
+                plans.apply(plans.works[i]);
+                boolean tempting = tempts(plans, p, depth + 1, n, i + 1);
+                plans.takeBack(plans.works[i]);
                 if (tempting) {
                     return true;
                 }
             }
             return false;
+        }
+
+        private boolean isTempted(Plain p) {
+            river.run(p);
+            return bankBy(river.course, p.fieldCell[goalField]) == goalSide;
         }
 
         int fight(Plain p, int side) {
