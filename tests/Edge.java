@@ -5,6 +5,7 @@ import java.nio.file.Files;
 import java.nio.file.Path;
 import java.util.ArrayList;
 import java.util.Arrays;
+import java.util.BitSet;
 import java.util.HashSet;
 import java.util.LinkedHashMap;
 import java.util.List;
@@ -13,6 +14,8 @@ import java.util.NoSuchElementException;
 import java.util.Set;
 import java.util.TreeMap;
 import java.util.TreeSet;
+import java.util.regex.Matcher;
+import java.util.regex.Pattern;
 
 /**
  * An object that is held to the words of the document which name a boundary. Its calls are told as texts ("dig 0 1 2";
@@ -32,6 +35,7 @@ final class Edge {
     private static final List<String> SHORT = shortQuestions();
     private static final Set<String> PARTS = new TreeSet<>();
     private static String document;
+    private static final BitSet quotes = new BitSet();
     private static String words = "";
     private static int answersOfWords = 1;
 
@@ -45,16 +49,24 @@ final class Edge {
         answersOfWords = 0;
         words = part + ", \"" + quoted + "\": ";
         PARTS.add(part);
-        Check.due(words + "stands in the document", partOf(part).contains(quoted), true);
+        int at = partOf(part).indexOf(quoted);
+        Check.due(words + "stands in the document", at >= 0, true);
+        if (at >= 0) {
+            quotes.set(beginOf(part) + at, beginOf(part) + at + quoted.length());
+        }
     }
 
     private static void heldToSomething() {
         Check.due(words + "the class is held to nothing by it", answersOfWords == 0, false);
     }
 
-    private static String partOf(String part) {
+    private static int beginOf(String part) {
         String from = part.startsWith("Promise") ? "## " + part + ": " : part.equals("Terms") ? "## Terms" : part;
-        int begin = text().indexOf(" " + from);
+        return text().indexOf(" " + from);
+    }
+
+    private static String partOf(String part) {
+        int begin = beginOf(part);
         if (begin < 0) {
             return "";
         }
@@ -82,6 +94,23 @@ final class Edge {
         }
         for (String part : new String[] {"Terms", "==== 2.", "==== 3."}) {
             Check.due(part + " has edges", PARTS.contains(part), true);
+        }
+        everyWord();
+    }
+
+    /** From the first line to the last each word was quoted, but for what tells nothing that could be tested here. */
+    private static void everyWord() {
+        Matcher passed = Pattern.compile("# BanksDealt ## What it is .*? ==== 1\\. |; what later calls answer"
+            + " is free| ## The public face .*?(?= ## )| ## Terms|## Promise \\d+: .*?`[^`]*`:|```(text)?|==== [23]\\."
+            + "|## Not promised .*").matcher(text());
+        while (passed.find()) {
+            quotes.set(passed.start(), passed.end());
+        }
+        Matcher word = Pattern.compile("[A-Za-z0-9]+").matcher(text());
+        while (word.find()) {
+            boolean quoted = quotes.nextClearBit(word.start()) >= word.end();
+            String where = text().substring(Math.max(0, word.start() - 40), Math.min(text().length(), word.end() + 10));
+            Check.due("'" + word.group() + "' of '" + where + "' is tested", quoted, true);
         }
     }
 

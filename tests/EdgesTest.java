@@ -10,6 +10,7 @@ public final class EdgesTest {
         EdgesOfActs.all();
         EdgesOfPlans.all();
         EdgesOfAnswers.all();
+        EdgesOfTheWhole.all();
         Edge.everyPart();
         Check.end("EdgesTest");
     }
